@@ -444,7 +444,7 @@ public final class StoneRoads {
         if (row.sort != LONGS && row.sort != EMPTY) {
             return CAST;
         }
-        return i < 0 || row.sort == EMPTY ? ENDED_EARLY : now.plan.judgeRow(row, i);
+        return now.plan.judgeRow(row, i);
     }
 
     public int image() {
@@ -946,7 +946,7 @@ public final class StoneRoads {
             return many;
         }
 
-        /** For a row of longs and a place that isn't below 0. */
+        /** For a row of longs, or nothing, which ends ahead of all places. */
         int judgeRow(Tape row, int from) {
             int looked = 0;
             for (int i = 0; i < sources; i++) {

@@ -15,6 +15,8 @@ public final class OracleTest {
         for (int run = first; run < first + runs && !test.checks.isWrong(); run++) {
             test.run(run);
         }
+        test.compareLong(PlanTest.LONG_CORNER, PlanTest.LONG_CORNER_KINDS, PlanTest.LONG_CORNER_BASES);
+        test.compareLong(BestTest.LONG_LEAST, BestTest.LONG_LEAST_KINDS, BestTest.LONG_LEAST_BASES);
         test.checks.finish();
     }
 
@@ -44,6 +46,31 @@ public final class OracleTest {
         }
         if (checks.isWrong()) {
             System.out.println("in run " + number + ": " + told);
+        }
+    }
+
+    /** A ground by which some PLANS aren't PROVED behind 100 STEPS. */
+    private void compareLong(String sites, int[] kinds, int[] bases) {
+        roads = PlanTest.laid(sites, kinds, bases);
+        oracle = new Oracle();
+        for (int k = 0; k < sites.length(); k++) {
+            oracle.feed(sites.charAt(k));
+        }
+        oracle.read();
+        for (int n = 0; n < 25; n++) {
+            oracle.road(n / 5, n % 5, kinds[n], bases[n]);
+        }
+        for (int rule = 0; rule < 3; rule++) {
+            due("start " + rule, roads.start(rule), oracle.start(rule));
+            due("step 1 100", roads.step(1, 100), oracle.step(1, 100));
+            compareAll();
+        }
+        for (int n = 0; n < 25; n++) {
+            int i = n / 5;
+            int j = n % 5;
+            due("more " + i + " " + j, roads.more(i, j), oracle.more(i, j));
+            due("fits " + i + " " + j, roads.fits(i, j, 0), oracle.fits(i, j, 0));
+            due("odds " + i + " " + j, roads.odds(i, j, 0), oracle.odds(i, j, 0));
         }
     }
 
