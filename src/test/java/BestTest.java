@@ -208,5 +208,10 @@ public final class BestTest {
         C.due("30: what nobody has", x.ends(2), 119);
         x.order(2, 23);
         C.due("30: with one ROAD SHUT it is", x.ends(0), 6362);
+        x.renew(0, 4, 0, x.of(0, 4, 0) - 1);
+        x.renew(1, 4, 0, x.of(1, 4, 0) - 1);
+        C.due("20: with a STONE less it is there", x.best(1, 1, 0), 6302);
+        C.due("22: with that STONE more it isn't", x.more(4, 4), StoneRoads.NO);
+        C.due("22: with another one it is", x.more(0, 0) != StoneRoads.NO ? 1 : 0, 1);
     }
 }

@@ -1,6 +1,13 @@
+import java.util.regex.Matcher;
+import java.util.regex.Pattern;
+
 /** Promises 1 to 9: quarries, works, roads, set-ups read from texts. */
 public final class GroundTest {
     private static final Checks C = new Checks();
+    private static final String CLAUSE = "([qw][0-9]{1,2},[0-9]|r[0-9][0-9][ptsx][0-9]{1,2})";
+    private static final Pattern SET_UP = Pattern.compile(CLAUSE + "(;" + CLAUSE + "){0,11}");
+    private static final String TWELVE =
+            "q9,0;q10,0;q0,0;q00,9;q5,5;w7,7;w77,7;r00p0;r99x99;r14s5;r00t05;w0,0";
 
     public static void main(String[] args) {
         newObject();
@@ -14,7 +21,10 @@ public final class GroundTest {
         fed();
         setUps();
         faults();
+        everyEnd();
+        everySign();
         refusedClauses();
+        planGoesByClauses();
         C.finish();
     }
 
@@ -267,6 +277,66 @@ public final class GroundTest {
         fault("r00p1,q1,1", 5);
         fault("r00p1;r00p2;r00p3;r00p4;r00p5;r00p6;r00p7;r00p8;r00p9;r00p1;r00p1;r00s2;", 71);
         fault("r00p1;r00p2;r00p3;r00p4;r00p5;r00p6;r00p7;r00p8;r00p9;r00p1;r00p1;r00s2;r00p3", 71);
+    }
+
+    /** The first place up to which no set-up can begin so; -1, if it is one. */
+    private static int placeOfFault(String text) {
+        Matcher whole = SET_UP.matcher(text);
+        if (whole.matches()) {
+            return -1;
+        }
+        for (int size = 1; size <= text.length(); size++) {
+            Matcher begun = SET_UP.matcher(text.substring(0, size));
+            if (!begun.matches() && !begun.hitEnd()) {
+                return size - 1;
+            }
+        }
+        return text.length();
+    }
+
+    private static void everyEnd() {
+        for (int size = 0; size <= TWELVE.length(); size++) {
+            String text = TWELVE.substring(0, size);
+            int place = placeOfFault(text);
+            // The ninth and the tenth name ROADS that aren't there.
+            int clauses = text.split(";").length;
+            int done = clauses - (clauses > 8 ? 1 : 0) - (clauses > 9 ? 1 : 0);
+            C.due("9: it ends at " + size, Checks.read(new StoneRoads(), text), place < 0 ? done : -10 - place);
+        }
+        C.due("9: a thirteenth", Checks.read(new StoneRoads(), TWELVE + ";q1,1"), -10 - TWELVE.length());
+        C.due("9: a thirteenth begins", Checks.read(new StoneRoads(), TWELVE + ";"), -10 - TWELVE.length());
+        C.due("9: a third digit", Checks.read(new StoneRoads(), "r00x999"), -16);
+    }
+
+    /** At each place of a set-up each sign there is; a FAULT, or another set-up. */
+    private static void everySign() {
+        String text = "q12,3;w4,5;r00s67;r01x8";
+        for (int at = 0; at <= text.length(); at++) {
+            for (int sign = 0; sign < 128; sign++) {
+                String end = at < text.length() ? text.substring(at + 1) : "";
+                String other = text.substring(0, at) + (char) sign + end;
+                int place = placeOfFault(other);
+                int told = Checks.read(new StoneRoads(), other);
+                C.due("9: sign " + sign + " at " + at, place < 0 ? Math.min(told, 0) : told, place < 0 ? 0 : -10 - place);
+            }
+        }
+    }
+
+    private static void planGoesByClauses() {
+        String[] clauses = {"q0,0", "w0,0", "r00p10", "r00p10;r44x1", "r44x1;w1,1"};
+        for (String clause : clauses) {
+            StoneRoads x = Checks.made("q10,2;w30,4");
+            x.start(0);
+            C.due("9: " + clause, Checks.read(x, clause), 1);
+            C.due("9: no PLAN behind " + clause, x.count(7), 0);
+        }
+        StoneRoads x = Checks.made("q1,0;q1,0;q1,0;q1,0;q1,0;w1,0;w1,0;w1,0;w1,0;w1,0");
+        x.start(0);
+        C.due("2: a sixth is refused", x.quarry(1, 1), StoneRoads.FULL);
+        C.due("3: a sixth is refused, too", x.work(1, 1), StoneRoads.FULL);
+        C.due("9: all are refused", Checks.read(x, "q1,1;w1,1;r50p1;r05p1;r99p1"), 0);
+        C.due("9: the PLAN stays", x.count(7), 1);
+        C.due("9: five are there", x.count(0) * 10 + x.count(1), 55);
     }
 
     private static void refusedClauses() {

@@ -24,6 +24,7 @@ public final class PlanTest {
         zeros();
         steps();
         manners();
+        turnsOfNone();
         loops();
         leaving();
         hundredSteps();
@@ -253,6 +254,36 @@ public final class PlanTest {
         x.road(0, 1, 0, 1);
         x.start(0);
         C.due("17: of several the first", x.enters(0), 1);
+        x.road(0, 1, 0, 18);
+        x.road(0, 2, 0, 11);
+        x.start(0);
+        C.due("15: SURPLUSES at last", Checks.surpluses(x), "0 -2 -9 0 0 0 0 0 0");
+        C.due("17: -2 times 9, -9 times 2: of both the first", x.enters(2), 1);
+        x.road(0, 2, 0, 10);
+        x.start(0);
+        C.due("17: -10 times 2 is less", x.enters(2), 2);
+    }
+
+    /** Costs 10 1 / 10 8 / 10 10 by CORNER, where QUARRY 0 has nothing. */
+    private static void turnsOfNone() {
+        StoneRoads x = Checks.made("q0,0;q5,0;q5,0;w5,0;w5,0;r01p1;r11p8");
+        x.start(0);
+        C.due("12: QUARRY 0 is BASIC with 0", Checks.loads(x), "0* 0 5* 0 0* 5*");
+        C.due("15: SURPLUSES", Checks.surpluses(x), "0 -9 0 -2 0 0");
+        C.due("16: TURN of 0 1", x.loop(0, 1, -2), 0);
+        C.due("16: TURN of 1 1", x.loop(1, 1, -2), 5);
+        C.due("17: STEEPEST", x.enters(0), 1);
+        C.due("17: FIRST", x.enters(1), 1);
+        C.due("17: -9 times 0 is more than -2 times 5", x.enters(2), 11);
+        C.due("11: that one", x.step(2, 1), 1);
+        C.due("19: of 10 and 21 the first LEFT", x.trace(0, 1), 10);
+        C.due("11: the other stays with 0", Checks.loads(x), "0* 0 0 5* 5* 0*");
+        x.start(0);
+        C.due("11: 0 1 by a TURN of 0", x.step(1, 1), 1);
+        C.due("19: TURN 0", x.trace(0, 2), 0);
+        C.due("19: LEFT", x.trace(0, 1), 0);
+        C.due("12: as it was, but for what is BASIC", Checks.loads(x), "0 0* 5* 0 0* 5*");
+        C.due("18: TOTAL is as it was", x.told(0), 100);
     }
 
     private static void loops() {
@@ -356,5 +387,17 @@ public final class PlanTest {
         C.due("20: there is no BEST", x.best(0, 1, 0), -5);
         C.due("20: nor its STEPS", x.best(0, 1, 1), -5);
         C.due("20: by another MANNER", x.best(0, 0, 1) < 100 ? 1 : 0, 1);
+        C.due("11: nor by another MANNER", x.step(0, 100), 0);
+        C.due("11: not PROVED, however many STEPS there were", x.rise(0, 0), StoneRoads.STATE);
+        x.start(0);
+        C.due("11: none of them counts now", x.step(1, 99), 99);
+        x.image();
+        C.due("11: the hundredth", x.step(1, 100), 1);
+        C.due("35: to 99 STEPS", x.undo(), 5);
+        C.due("35: they are had", x.told(1), 99);
+        C.due("19: the hundredth isn't", x.trace(99, 0), StoneRoads.NONE);
+        C.due("11: the hundredth again", x.step(1, 100), 1);
+        C.due("35: again", x.undo(), 5);
+        C.due("11: a hundred at once", x.start(0) >= 0 ? x.step(1, 100) : 0, 100);
     }
 }
