@@ -18,6 +18,8 @@ public final class StoneRoads {
     private static final int ENDED_EARLY = 100;
     /** An own mark for "no CELL", never answered. */
     private static final int NO_CELL = -1;
+    /** Above whatever a CELL costs, or has as its LOAD: what the search for a least one begins with. */
+    private static final int ABOVE_ALL = 1000000;
 
     private static final int SITES = 5;
     /** SOURCES or SINKS at most: a SPARE one comes behind all others. */
@@ -1016,7 +1018,7 @@ public final class StoneRoads {
         }
 
         private void pickLeast(int[] costs) {
-            int least = Integer.MAX_VALUE;
+            int least = ABOVE_ALL;
             for (int i = 0; i < sources; i++) {
                 for (int j = 0; j < sinks; j++) {
                     if (sourceOpen[i] && sinkOpen[j] && costs[cellAt(i, j)] < least) {
@@ -1050,8 +1052,8 @@ public final class StoneRoads {
 
         /** Of one SOURCE's or SINK's CELLS: the first one, the stride to the next, those OPEN. */
         private static int regretOf(int[] costs, int from, int stride, boolean[] open, int n) {
-            int cheapest = Integer.MAX_VALUE;
-            int second = Integer.MAX_VALUE;
+            int cheapest = ABOVE_ALL;
+            int second = ABOVE_ALL;
             for (int k = 0; k < n; k++) {
                 int cost = costs[from + k * stride];
                 if (open[k] && cost < cheapest) {
@@ -1061,12 +1063,12 @@ public final class StoneRoads {
                     second = cost;
                 }
             }
-            return second == Integer.MAX_VALUE ? cheapest : second - cheapest;
+            return second == ABOVE_ALL ? cheapest : second - cheapest;
         }
 
         private static int cheapestOf(int[] costs, int from, int stride, boolean[] open, int n) {
             int found = 0;
-            int least = Integer.MAX_VALUE;
+            int least = ABOVE_ALL;
             for (int k = 0; k < n; k++) {
                 if (open[k] && costs[from + k * stride] < least) {
                     least = costs[from + k * stride];
@@ -1154,7 +1156,7 @@ public final class StoneRoads {
         }
 
         int turnOf(int[] loads) {
-            int turn = Integer.MAX_VALUE;
+            int turn = ABOVE_ALL;
             for (int k = 1; k < size; k += 2) {
                 turn = Math.min(turn, loads[cells[k]]);
             }

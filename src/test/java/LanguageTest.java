@@ -1,4 +1,6 @@
 import java.io.IOException;
+import java.lang.reflect.Field;
+import java.lang.reflect.Modifier;
 import java.nio.charset.StandardCharsets;
 import java.nio.file.Files;
 import java.nio.file.Path;
@@ -26,17 +28,33 @@ public final class LanguageTest {
         none(code, "4: other libraries", "\\bimport (?!java\\.util\\.Arrays;)|\\bjava\\.(?!util\\.Arrays;)");
         none(code, "4: other functions", "\\bArrays\\.(?!fill\\(|copyOf)|\\bMath\\.(?!min\\(|max\\()"
                 + "|\\bSystem\\.(?!arraycopy\\()|Exact\\b");
+        none(code.replace("NO = Long.MIN_VALUE;", ""), "4: constants of the library",
+                "\\b(Integer|Long|Math|Character|Short|Byte)\\.(?![a-z]\\w*\\()");
         none(code, "1: a package", "\\bpackage\\b");
         none(code, "6: equals, hashCode, toString", "\\b(equals|hashCode|toString)\\b");
         none(code, "5: static state", "\\bstatic (?!final\\b|[\\w\\[\\]]+ \\w+\\()");
         none(code, "13: the world outside", "\\b(Thread|Random|currentTimeMillis|nanoTime|getenv|File)\\b");
         shortMethods(all);
+        fewFields(StoneRoads.class);
+        Class<?>[] inside = StoneRoads.class.getDeclaredClasses();
+        C.due("11: twelve classes", inside.length < 12 ? 1 : 0, 1);
+        for (Class<?> one : inside) {
+            fewFields(one);
+        }
         C.finish();
     }
 
     private static void none(String code, String rule, String pattern) {
         Matcher matcher = Pattern.compile(pattern).matcher(code);
         C.due(rule, matcher.find() ? "at: " + code.substring(matcher.start()).lines().findFirst().get() : "", "");
+    }
+
+    private static void fewFields(Class<?> where) {
+        int many = 0;
+        for (Field field : where.getDeclaredFields()) {
+            many += Modifier.isStatic(field.getModifiers()) ? 0 : 1;
+        }
+        C.due("11: twenty fields in " + where.getName(), many <= 20 ? 1 : 0, 1);
     }
 
     /** By the indentation: a method ends at a brace that stands as far in as its head. */

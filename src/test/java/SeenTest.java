@@ -6,6 +6,7 @@ public final class SeenTest {
         see();
         fits();
         odds();
+        oddsOfEachBase();
         mean();
         order();
         ends();
@@ -93,6 +94,23 @@ public final class SeenTest {
         C.due("27: of ten", x.odds(0, 0, 1), 10);
         x.road(1, 0, 0, 99);
         C.due("27: up to 90", x.odds(0, 0, 0), 1);
+    }
+
+    /** One STONE for two WORKS goes where it costs less: so each of the ten BASES is seen to be tried. */
+    private static void oddsOfEachBase() {
+        String[] due = {"0/1", "1/10", "1/5", "3/10", "2/5", "1/2", "3/5", "7/10", "4/5", "9/10", "1/1"};
+        StoneRoads x = Checks.made("q1,0;w1,0;w1,0");
+        for (int n = 0; n < 10; n++) {
+            x.road(0, 1, 0, 10 * n + 1);
+            C.due("27: BASES 0 .. " + 10 * n, x.odds(0, 0, 0) + "/" + x.odds(0, 0, 1), due[n + 1]);
+            if (n > 0) {
+                x.road(0, 1, 0, 10 * n - 1);
+                C.due("27: BASES below " + 10 * n, x.odds(0, 0, 0) + "/" + x.odds(0, 0, 1), due[n]);
+            }
+        }
+        x.road(0, 1, 3, 0);
+        C.due("27: what a SHUT ROAD takes nothing from", x.odds(0, 0, 0) + "/" + x.odds(0, 0, 1), due[10]);
+        C.due("27: a SHUT ROAD", x.odds(0, 1, 0) + "/" + x.odds(0, 1, 1), due[0]);
     }
 
     private static void mean() {
