@@ -30,6 +30,8 @@ public final class PlanTest {
         hundredSteps();
         greatestWithSpareWork();
         greatestWithSpareQuarry();
+        longestLoop();
+        rowsBesideTheSpareWork();
         C.finish();
     }
 
@@ -328,6 +330,43 @@ public final class PlanTest {
             C.due("20: all cost alike", x.best(rule, 2, 0), 250);
         }
         judgeAll(x);
+    }
+
+    /** Ten CELLS: from the last SOURCE back to the first SINK, through all that lie between. */
+    private static void longestLoop() {
+        StoneRoads x = Checks.made("q9,0;q9,0;q9,0;q9,0;q5,0;w5,0;w9,0;w9,0;w9,0;w9,0;r40p0");
+        C.due("10: down the stairs", x.start(0), 410);
+        C.due("12: down the stairs", Checks.loads(x),
+                "5* 4* 0 0 0 0 5* 4* 0 0 0 0 5* 4* 0 0 0 0 5* 4* 0 0 0 0 5*");
+        int[] way = {40, 0, 1, 11, 12, 22, 23, 33, 34, 44};
+        C.due("16: ten", x.loop(4, 0, -1), way.length);
+        C.due("16: TURN of ten", x.loop(4, 0, -2), 5);
+        for (int k = 0; k < way.length; k++) {
+            C.due("16: number " + k, x.loop(4, 0, k), way[k]);
+        }
+        C.due("16: number 10", x.loop(4, 0, 10), StoneRoads.NONE);
+        for (int manner = 0; manner < 3; manner++) {
+            C.due("17: the only one below 0", x.enters(manner), 40);
+        }
+        C.due("11: one STEP", x.step(2, 100), 1);
+        C.due("12: all that turned", Checks.loads(x),
+                "0 9* 0 0 0 0 0* 9* 0 0 0 0 0* 9* 0 0 0 0 0* 9* 5* 0 0 0 0*");
+        C.due("19: the first of five LEAVES", x.trace(0, 1), 0);
+        C.due("18: zeros that are kept", x.told(3), 4);
+    }
+
+    /** With six SINKS a row's last CELL stands just ahead of the next row's first: each counts once. */
+    private static void rowsBesideTheSpareWork() {
+        StoneRoads x = Checks.made("q1,0;q9,0;q9,0;q9,0;q9,0;w5,0;w5,0;w5,0;w5,0;w5,0");
+        C.due("10: 25 STONES that cost 10", x.start(0), 250);
+        C.due("12: the second row begins with a LOAD", x.load(1, 0), 4);
+        C.due("28: 37 STONES in all", x.mean(0) * 100 + x.mean(1), 25037);
+        x.renew(0, 0, 0, 5);
+        C.due("10: as many", x.start(0), 250);
+        C.due("12: the second row begins with 0", x.load(1, 0), 0);
+        C.due("13: it is BASIC", x.basic(1, 0), 1);
+        C.due("18: the only BASIC one with 0", x.told(3), 1);
+        C.due("28: 41 STONES in all", x.mean(0) * 100 + x.mean(1), 25041);
     }
 
     /** Five of both, and a sixth SOURCE. */
